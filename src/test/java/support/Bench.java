@@ -45,6 +45,23 @@ final class Bench {
         }
     }
 
+    /** A keeper that is half full, at 3700, with DEBOUNCE 20 and EVERY 50: no cause is so. */
+    static CellKeeper half(int chips) {
+        CellKeeper x = new CellKeeper(chips, 2, 10, 20, 50);
+        x.set(500);
+        level(x, 3700);
+        return x;
+    }
+
+    /** A keeper that power came to with the faults of a block, half full, at 3700. */
+    static CellKeeper withFaults(int faults) {
+        CellKeeper x = new CellKeeper(1, 2, 10, 20, 50);
+        forge(x, 0, block(1, 0, 500 * 8192, faults, 0));
+        x.power();
+        level(x, 3700);
+        return x;
+    }
+
     /** Ticks with fresh level replies before each ten: no chip becomes stale. */
     static int run(CellKeeper x, int number, int ticks) {
         int state = 0;
@@ -95,6 +112,32 @@ final class Bench {
         x.bus(22200);
         Expect.same("closing", x.tick(4), 3);
         return x;
+    }
+
+    /** Every answer that a keeper can give, as the other one gives it. */
+    static void sameKeepers(String what, CellKeeper x, CellKeeper y) {
+        Expect.same(what + ", off", x.off(), y.off());
+        for (int i = 0; i < 64; i++) {
+            Expect.same(what + ", byte " + i, x.journal(i), y.journal(i));
+        }
+        if (x.off() || y.off()) {
+            return;
+        }
+        Expect.same(what + ", time", x.time(), y.time());
+        Expect.near(what + ", charge", x.charge(), y.charge());
+        Expect.near(what + ", through", x.through(), y.through());
+        Expect.near(what + ", to be given", x.allowed(false), y.allowed(false));
+        Expect.near(what + ", to be taken", x.allowed(true), y.allowed(true));
+        Expect.same(what + ", faults", x.faults(), y.faults());
+        for (int cause = 0; cause < 7; cause++) {
+            Expect.same(what + ", count of " + cause, x.count(cause), y.count(cause));
+        }
+        for (int chip = 0; chip < y.chips(); chip++) {
+            Expect.same(what + ", bleeding of " + chip, x.bleeding(chip), y.bleeding(chip));
+            for (int cell = 0; cell < 6; cell++) {
+                Expect.same(what + ", valid " + chip + " " + cell, x.valid(chip, cell), y.valid(chip, cell));
+            }
+        }
     }
 
     /** A keeper whose power a cut took in its first tick. */

@@ -6,8 +6,18 @@ final class Expect {
 
     private static int looked = 0;
     private static int wrong = 0;
+    private static String beside = "";
 
     private Expect() {
+    }
+
+    /** What is printed before each answer that is not as due, from now on. */
+    static void beside(String words) {
+        beside = words;
+    }
+
+    static int looks() {
+        return looked;
     }
 
     static void same(String what, long got, long due) {
@@ -50,7 +60,7 @@ final class Expect {
         if (!right) {
             wrong++;
             if (wrong <= 40) {
-                System.out.println(words);
+                System.out.println(beside + words);
             }
         }
     }
