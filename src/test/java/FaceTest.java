@@ -1,8 +1,11 @@
+import java.io.IOException;
 import java.lang.reflect.Constructor;
 import java.lang.reflect.Field;
 import java.lang.reflect.Member;
 import java.lang.reflect.Method;
 import java.lang.reflect.Modifier;
+import java.nio.file.Files;
+import java.nio.file.Path;
 import java.util.Set;
 import java.util.TreeSet;
 
@@ -15,7 +18,29 @@ public final class FaceTest {
         "int percent()", "double through()", "double allowed(boolean)", "boolean valid(int,int)",
         "int bleeding(int)", "int faults()", "int count(int)", "int journal(int)", "void spoil(int,int)"};
 
-    public static void main(String[] args) {
+    public static void main(String[] args) throws IOException {
+        methodsAndFields();
+        declarations();
+        Expect.end();
+    }
+
+    /** Each declaration of the document, with its exceptions in their order, stands in the source. */
+    private static void declarations() throws IOException {
+        String source = Files.readString(Path.of("src", "main", "java", "CellKeeper.java")).replaceAll("\\s+", " ");
+        String document = Files.readString(Path.of("..", "shared", "DOC.md"));
+        int declared = 0;
+        for (String line : document.split("\n")) {
+            String declaration = line.trim();
+            if (declaration.startsWith("public ") && declaration.endsWith(";")) {
+                declared++;
+                String due = declaration.replace(";", " {");
+                Expect.note(source.contains(due), "the class has no " + declaration);
+            }
+        }
+        Expect.same("the constructor and methods that the document declares", declared, FACE.length + 1);
+    }
+
+    private static void methodsAndFields() {
         Set<String> names = new TreeSet<>();
         Set<String> seen = new TreeSet<>();
         for (Method method : CellKeeper.class.getDeclaredMethods()) {
@@ -44,7 +69,6 @@ public final class FaceTest {
             Expect.note(Modifier.isStatic(inside.getModifiers()), inside + " is not static");
             Expect.note(!Modifier.isPublic(inside.getModifiers()), inside + " is public");
         }
-        Expect.end();
     }
 
     private static boolean isPrivate(Member member) {
